@@ -91,5 +91,14 @@ public final class DialTest {
         Check.due("twenty", net.seized(0, 0, 0), CrossbarNet.NONE);
         Check.due("tone", net.tone(0, 0), CrossbarNet.BUSY);
         Check.due("no register any more", net.dial(0, 0, 5), false);
+        net.hang(0, 0);
+        net.lift(0, 0);
+        net.tick(15);
+        net.hang(0, 0);
+        net.lift(0, 0);
+        net.tick(19);
+        Check.due("counted anew by the next call", net.tone(0, 0), CrossbarNet.DIAL);
+        net.tick(1);
+        Check.due("twenty again", net.tone(0, 0), CrossbarNet.BUSY);
     }
 }

@@ -5,6 +5,7 @@ public final class OutTest {
         aCallThatHasItIsOver();
         aTrunkThatIsOutIsNotSeized();
         aHeldCallWithoutItsCaller();
+        whatWasHeldIsNotHeldInTheNextCall();
         Check.finish();
     }
 
@@ -72,5 +73,19 @@ public final class OutTest {
         Check.due("hold", net.hold(1, 5, true), false);
         net.lift(0, 0);
         Check.due("a new call", net.tone(0, 0), CrossbarNet.DIAL);
+    }
+
+    private static void whatWasHeldIsNotHeldInTheNextCall() {
+        CrossbarNet net = Scene.talkOverTrunk();
+        net.hold(1, 5, true);
+        net.out(0, true);
+        net.out(0, false);
+        net.hang(0, 0);
+        net.hang(1, 5);
+        Scene.call(net, 0, 0, "305");
+        net.tick(4);
+        net.lift(1, 5);
+        net.hang(0, 0);
+        Check.due("over", net.tone(1, 5), CrossbarNet.BUSY);
     }
 }

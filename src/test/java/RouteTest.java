@@ -20,6 +20,7 @@ public final class RouteTest {
         Check.badState("own, then a choice", net, () -> net.route(0, 10, 1, 0, 0));
         Check.badState("own, then own", net, () -> net.route(0, 10, 0, 0, 0));
         Check.due("the same prefix in another office", net.route(1, 10, 0, 0, 0), 1);
+        Check.due("a choice more for the first prefix of an office", net.route(1, 10, 2, 0, 0), 2);
     }
 
     private static void refusesWrongNumbers() {
@@ -76,6 +77,13 @@ public final class RouteTest {
         net.tick(2);
         Check.due("behind 07", net.rings(0, 11), true);
         Check.due("behind 000", net.rings(0, 12), true);
+        CrossbarNet nought = new CrossbarNet();
+        nought.route(0, 10, 0, 0, 0);
+        Scene.call(nought, 0, 0, "01");
+        Check.due("one digit behind 0", nought.idle(0, 5), 0);
+        Scene.digits(nought, 0, 0, "3");
+        nought.tick(1);
+        Check.due("behind 0", nought.rings(0, 13), true);
     }
 
     private static void choicesAreTriedInOrder() {

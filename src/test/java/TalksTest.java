@@ -5,6 +5,7 @@ public final class TalksTest {
         Check.badPlaces("talks", fresh, fresh::talks);
         onlyWhileBothAreThere();
         namesLinesOfAllOffices();
+        laterCallsLeaveFormerPartnersAlone();
         Check.finish();
     }
 
@@ -36,5 +37,21 @@ public final class TalksTest {
         net.lift(1, 23);
         Check.due("a line of office 1", net.talks(2, 23), 47);
         Check.due("a line of office 2", net.talks(1, 23), 71);
+    }
+
+    private static void laterCallsLeaveFormerPartnersAlone() {
+        CrossbarNet net = Scene.talkWithin();
+        net.hang(0, 0);
+        net.hang(0, 5);
+        Scene.call(net, 0, 9, "205");
+        net.tick(1);
+        net.lift(0, 5);
+        Scene.call(net, 0, 0, "9");
+        Check.due("a call that fails", net.tone(0, 0), CrossbarNet.UNKNOWN);
+        net.hang(0, 0);
+        net.lift(0, 0);
+        net.hang(0, 0);
+        Check.due("talks on", net.talks(0, 5), 9);
+        Check.due("tone", net.tone(0, 5), CrossbarNet.SILENCE);
     }
 }

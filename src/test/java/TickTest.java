@@ -5,6 +5,7 @@ public final class TickTest {
         manyAreAsManyOnes();
         eachOfficeDoesOneJobATick();
         digitsGoOneATick();
+        aThirdOfficeHasAllDigits();
         numbersComeByOfficeAndRegister();
         registersGoToThoseWhoWaitInTheSameTick();
         anEarlierOfficeTakesTheLastRegister();
@@ -67,6 +68,27 @@ public final class TickTest {
         Scene.call(net, 0, 0, "56023");
         net.tick(6);
         Check.due("line 02", net.rings(1, 2), true);
+        net.hang(0, 0);
+        net.route(0, 10, 1, 0, 0);
+        Scene.call(net, 0, 0, "000");
+        net.tick(2);
+        Check.due("noughts are digits too", net.idle(1, 5), 0);
+        net.tick(1);
+        Check.due("three of them", net.idle(1, 5), 1);
+    }
+
+    private static void aThirdOfficeHasAllDigits() {
+        CrossbarNet net = new CrossbarNet();
+        net.trunk(0, 1);
+        net.trunk(1, 2);
+        net.route(0, 1567, 1, 0, 0);
+        net.route(1, 15, 2, 0, 0);
+        net.route(2, 1567, 2, 0, 0);
+        Scene.call(net, 0, 0, "56712");
+        net.tick(10);
+        Check.due("five digits twice", net.idle(2, 5), 1);
+        net.tick(1);
+        Check.due("line 12", net.rings(2, 12), true);
     }
 
     private static void numbersComeByOfficeAndRegister() {
