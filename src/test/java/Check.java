@@ -3,15 +3,29 @@ import java.util.Objects;
 /** Counts and prints the answers that are not the ones due. */
 final class Check {
     private static int wrong = 0;
+    private static String heading = "";
 
     private Check() {
     }
 
+    /** What is found wrong from here on is printed below this heading. */
+    static void under(String newHeading) {
+        heading = newHeading;
+    }
+
     static void due(String what, Object got, Object want) {
         if (!Objects.equals(got, want)) {
-            wrong++;
-            System.out.println(what + " answered " + got + ", due is " + want);
+            fails(what + " answered " + got + ", due is " + want);
         }
+    }
+
+    static void fails(String what) {
+        wrong++;
+        if (!heading.isEmpty()) {
+            System.out.println(heading);
+            heading = "";
+        }
+        System.out.println(what);
     }
 
     static void badArgument(String what, CrossbarNet net, Runnable call) {
@@ -24,14 +38,25 @@ final class Check {
 
     private static void refused(String what, CrossbarNet net, Runnable call, Class<?> kind) {
         String before = Scene.stateOf(net);
-        Class<?> thrown = null;
+        due(what + ": what it throws", thrownBy(call), kind);
+        due(what + ": the state behind it", Scene.stateOf(net), before);
+    }
+
+    /** The arguments are told by the document; the state may forbid the call nevertheless. */
+    static void goodArgument(String what, Runnable call) {
+        Class<?> thrown = thrownBy(call);
+        if (thrown != null && thrown != IllegalStateException.class) {
+            fails(what + " throws " + thrown);
+        }
+    }
+
+    private static Class<?> thrownBy(Runnable call) {
         try {
             call.run();
+            return null;
         } catch (RuntimeException e) {
-            thrown = e.getClass();
+            return e.getClass();
         }
-        due(what + ": what it throws", thrown, kind);
-        due(what + ": the state behind it", Scene.stateOf(net), before);
     }
 
     /** Asks a method of an office and a line for all that is no office or no line. */

@@ -15,6 +15,21 @@ final class Scene {
         net.trunk(0, 1);
         net.trunk(1, 2);
         net.trunk(0, 2);
+        addRoutes(net);
+        return net;
+    }
+
+    /** Has all 16 trunks: 0 to 7 between offices 0 and 1, 8 to 11 between 0 and 2, 12 to 15 between 1 and 2. */
+    static CrossbarNet wideNet() {
+        CrossbarNet net = new CrossbarNet();
+        for (int i = 0; i < 16; i++) {
+            net.trunk(i < 12 ? 0 : 1, i < 8 ? 1 : 2);
+        }
+        addRoutes(net);
+        return net;
+    }
+
+    private static void addRoutes(CrossbarNet net) {
         net.route(0, 12, 0, 1, 10);
         net.route(0, 13, 1, 3, 5);
         net.route(0, 14, 2, 5, 4);
@@ -25,7 +40,6 @@ final class Scene {
         net.route(2, 12, 0, 7, 2);
         net.route(2, 13, 1, 8, 2);
         net.route(2, 14, 2, 9, 2);
-        return net;
     }
 
     static void digits(CrossbarNet net, int office, int line, String digits) {
@@ -37,6 +51,36 @@ final class Scene {
     static void call(CrossbarNet net, int office, int line, String digits) {
         net.lift(office, line);
         digits(net, office, line, digits);
+    }
+
+    static void call(CrossbarNet net, int office, int line, String digits, int ticks) {
+        call(net, office, line, digits);
+        net.tick(ticks);
+    }
+
+    /** A number: the prefix's digits and a line's two. */
+    static String number(String prefix, int line) {
+        return prefix + line / 10 + line % 10;
+    }
+
+    /** The rotor of office 0 goes on by so many: line 23, whose primary must be idle, calls and hangs up at once. */
+    static void turnRotor(CrossbarNet net, int steps) {
+        for (int i = 0; i < steps; i++) {
+            call(net, 0, 23, "400", 1);
+            net.hang(0, 23);
+        }
+    }
+
+    /** Of a primary of office 0 only these links stay idle; needs a rotor at 0, and leaves it there. */
+    static void keepIdle(CrossbarNet net, int primary, int... secondaries) {
+        for (int i = 0; i < 4; i++) {
+            int line = 8 * primary + i;
+            call(net, 0, line, number("3", line), 4);
+            Check.due("what line " + line + " seizes", net.seized(0, line, 0), 4 * primary + i);
+        }
+        for (int secondary : secondaries) {
+            net.hang(0, 8 * primary + secondary);
+        }
     }
 
     /** Line 0 of office 0 talks with line 5 of office 0, charged 1 and again after each 10 ticks. */
