@@ -181,7 +181,7 @@ public final class CrossbarNet {
     public int talks(int office, int line) throws IllegalArgumentException {
         Line asked = lineOf(office, line);
         Call call = asked.call;
-        if (call == null || call.stage != Stage.TALKING || !call.caller.lifted || !call.called.lifted) {
+        if (call == null || call.stage != Stage.TALKING || !call.caller.lifted || !call.calledIsLifted()) {
             return NONE;
         }
         return call.called == asked ? call.caller.name() : call.called.name();
@@ -454,9 +454,9 @@ public final class CrossbarNet {
     }
 
     private void spendTalkTick(Call call) {
-        if (call.called.lifted) {
+        if (call.calledIsLifted()) {
             call.ticksSinceCharge++;
-            int period = call.dialled.period;
+            int period = call.period();
             if (period > 0 && call.ticksSinceCharge >= period) {
                 charge(call);
             }
@@ -490,7 +490,7 @@ public final class CrossbarNet {
     }
 
     private void charge(Call call) {
-        call.caller.charged += call.dialled.units;
+        call.caller.charged += call.units();
         call.ticksSinceCharge = 0;
     }
 
@@ -748,6 +748,19 @@ public final class CrossbarNet {
 
         boolean hasBeenAt(int office) {
             return (officesSoFar >> office & 1) != 0;
+        }
+
+        boolean calledIsLifted() {
+            return called != null && called.lifted;
+        }
+
+        // Asked for anew each time: a route's units and period may be set while a call goes on.
+        int units() {
+            return dialled == null ? 0 : dialled.units;
+        }
+
+        int period() {
+            return dialled == null ? 0 : dialled.period;
         }
     }
 

@@ -274,6 +274,14 @@ final class DialBoundaries {
         net.lift(0, 1);
         net.tick(100);
         Check.due("many at once", net.tone(0, 1), CrossbarNet.BUSY);
+        net.lift(0, 2);
+        net.tick(15);
+        net.hang(0, 2);
+        net.lift(0, 2);
+        net.tick(19);
+        Check.due("seized a second time, nineteen", net.tone(0, 2), CrossbarNet.DIAL);
+        net.tick(1);
+        Check.due("seized a second time, twenty", net.tone(0, 2), CrossbarNet.BUSY);
     }
 
     private static void twentyTicksSinceTheLastDigit() {

@@ -43,6 +43,7 @@ final class TalkBoundaries {
         Sentence.holds(TERMS, OTHER, TalkBoundaries::waitingIsGone);
         Sentence.holds(TERMS, OVER, TalkBoundaries::linesThatAreLiftedAreBusy);
         Sentence.holds(TERMS, OVER, TalkBoundaries::ringingAndJobsEnd);
+        Sentence.holds(TERMS, OVER, TalkBoundaries::linesOfFormerCallsAreLeftAlone);
         Sentence.holds(HANG, "A line hangs up.", TalkBoundaries::aLineThatHungUpCanLiftAgain);
         Sentence.holds(HANG, "IllegalState: it is on the hook.", TalkBoundaries::linesOnTheHook);
         Sentence.holds(HOLD, HELD, TalkBoundaries::whoseCallCanBeHeld);
@@ -390,6 +391,21 @@ final class TalkBoundaries {
         Scene.call(net, 0, 0, "205");
         net.hang(0, 0);
         Check.due("a job here is gone", net.idle(0, 5), 0);
+    }
+
+    private static void linesOfFormerCallsAreLeftAlone() {
+        CrossbarNet net = Scene.talkWithin();
+        net.hang(0, 0);
+        net.hang(0, 5);
+        Scene.call(net, 0, 9, "205", 1);
+        net.lift(0, 5);
+        Scene.call(net, 0, 0, "9");
+        net.hang(0, 0);
+        Check.due("a call that fails has but its own lines", net.talks(0, 5), 9);
+        net.lift(0, 0);
+        net.hang(0, 0);
+        Check.due("so has one that is over", net.talks(0, 5), 9);
+        Check.due("no tone comes to others", net.tone(0, 5), CrossbarNet.SILENCE);
     }
 
     private static void aLineThatHungUpCanLiftAgain() {
