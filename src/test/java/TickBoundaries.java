@@ -24,6 +24,7 @@ final class TickBoundaries {
         Sentence.holds(TERMS, JOBS, TickBoundaries::officesGoByTheirNumber);
         Sentence.holds(TERMS, JOBS, TickBoundaries::whatAnEarlierOfficeFreesIsIdle);
         Sentence.holds(TERMS, SENDING, TickBoundaries::threeFourAndFiveDigits);
+        Sentence.holds(TERMS, SENDING, TickBoundaries::noughtsAreSentToo);
         Sentence.holds(TERMS, SENDING, TickBoundaries::theLastDigitFreesTheRegister);
         Sentence.holds(TERMS, SENDING, TickBoundaries::numbersComeByOffice);
         Sentence.holds(TERMS, SENDING, TickBoundaries::numbersComeByRegister);
@@ -163,6 +164,22 @@ final class TickBoundaries {
             Check.due("the number is a job", net.idle(1, 5), 1);
             net.tick(1);
             Check.due("line 23", net.rings(1, 23), true);
+        }
+    }
+
+    private static void noughtsAreSentToo() {
+        int[] names = {10, 100, 1000};
+        for (int i = 0; i < names.length; i++) {
+            CrossbarNet net = new CrossbarNet();
+            net.trunk(0, 1);
+            net.route(0, names[i], 1, 0, 0);
+            net.route(1, names[i], 1, 0, 0);
+            Scene.call(net, 0, 5, "00000".substring(0, i + 3), i + 2);
+            Check.due("one nought is left of " + (i + 3), net.idle(1, 5), 0);
+            net.tick(1);
+            Check.due("none is left of " + (i + 3), net.idle(1, 5), 1);
+            net.tick(1);
+            Check.due("line 00", net.rings(1, 0), true);
         }
     }
 
